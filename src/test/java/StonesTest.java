@@ -97,18 +97,23 @@ public final class StonesTest {
 
     private static void findOwners() {
         int[][] places = {{49, 49}, {50, 49}, {49, 50}, {50, 50}, {0, 0}, {99, 0}, {0, 99}, {99, 99}};
-        for (int law = 0; law < 3; law++) {
-            FireNet net = new FireNet();
-            for (int i = 0; i < 8; i++) {
-                net.law(i % 4, law);
-                net.law((i + 1) % 4, 1 - law / 2);
-                net.law((i + 1) % 4, law == 1 ? 0 : 1);
-                int stone = net.find(places[i][0], places[i][1], 0, 1, 3);
-                Checks.equal(law == 1 ? 10 + i % 4 : 3, net.stone(stone, OWNER));
-            }
-            net.law(0, law == 1 ? 0 : 1);
-            Checks.equal(law == 1 ? 10 : 3, net.stone(0, OWNER));
+        for (int i = 0; i < places.length; i++) {
+            int land = i % 4;
+            Checks.equal(3, ownerOfFind(places[i], land, 0, 1));
+            Checks.equal(10 + land, ownerOfFind(places[i], land, 1, 0));
+            Checks.equal(3, ownerOfFind(places[i], land, 2, 1));
         }
+        FireNet net = withStones(1);
+        net.law(0, 1);
+        Checks.equal(0, net.stone(0, OWNER));
+    }
+
+    private static int ownerOfFind(int[] place, int land, int law, int lawOfOthers) {
+        FireNet net = new FireNet();
+        for (int other = 0; other < 4; other++) {
+            net.law(other, other == land ? law : lawOfOthers);
+        }
+        return net.stone(net.find(place[0], place[1], 0, 1, 3), OWNER);
     }
 
     private static void mineralsTold() {
