@@ -603,11 +603,11 @@ public final class FireNet {
         } else {
             field.scatter(fireball, wind.x, wind.y);
         }
-        return divided(weightLeft(number, x, y) * MILLION, weightOfGround(number));
+        return divided(weightLeft(field.weight(x, y), number, x, y) * MILLION, weightOfGround(number));
     }
 
-    private long weightLeft(int fireball, int x, int y) {
-        long weight = field.weight(x, y);
+    private long weightLeft(long unwalked, int fireball, int x, int y) {
+        long weight = unwalked;
         for (int i = 0; i < walks.size(); i++) {
             Walk done = walks.get(i);
             if (done.isThrough(fireball, x, y)) {
@@ -622,7 +622,8 @@ public final class FireNet {
         for (int i = 0; i < walks.size(); i++) {
             Walk done = walks.get(i);
             if (done.first && done.fireball == fireball) {
-                sum += weightLeft(fireball, done.x, done.y) - field.weight(done.x, done.y);
+                long unwalked = field.weight(done.x, done.y);
+                sum += weightLeft(unwalked, fireball, done.x, done.y) - unwalked;
             }
         }
         return sum;
@@ -940,11 +941,11 @@ public final class FireNet {
         }
 
         long pieceX(int size) {
-            return Math.floorDiv(endX + windX * 20 * (6 - size), 100);
+            return Math.floorDiv(endX + windX * 20 * (6 - size), 100L);
         }
 
         long pieceY(int size) {
-            return Math.floorDiv(endY + windY * 20 * (6 - size), 100);
+            return Math.floorDiv(endY + windY * 20 * (6 - size), 100L);
         }
 
         long weight(int x, int y) {

@@ -52,5 +52,14 @@ final class Checks {
         if (thrown == null || thrown.getClass() != due) {
             throw new AssertionError("threw " + thrown + ", due is " + due.getSimpleName());
         }
+        if (!isThrownByFireNet(thrown)) {
+            throw new AssertionError("FireNet let the machine or its library throw " + thrown);
+        }
+    }
+
+    /** An exception that a statement of FireNet throws was made in FireNet, or in a class inside it. */
+    static boolean isThrownByFireNet(RuntimeException thrown) {
+        StackTraceElement[] trace = thrown.getStackTrace();
+        return trace.length > 0 && trace[0].getClassName().startsWith("FireNet");
     }
 }

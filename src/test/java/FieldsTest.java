@@ -20,6 +20,7 @@ public final class FieldsTest {
         checks.test("promise 15: ranges of a chance", FieldsTest::chanceRanges);
         checks.test("promise 17: of its night or of one ahead", FieldsTest::fallByNight);
         checks.test("promise 17: the greatest chance, of several the lowest", FieldsTest::fallByChance);
+        checks.test("promise 17: the least chance that is not 0", FieldsTest::fallBySmallChance);
         checks.test("promise 17: none if all are 0", FieldsTest::fallOfNone);
         checks.test("promise 17: falls follow clocks, winds and walks", FieldsTest::fallFollows);
         checks.test("promise 17: no such stone", FieldsTest::fallRanges);
@@ -263,6 +264,16 @@ public final class FieldsTest {
         Checks.equal(4, net.fall(4));
         net.cut(3, 1, 0);
         Checks.equal(2, net.fall(5));
+    }
+
+    private static void fallBySmallChance() {
+        FireNet net = Nets.oneFireball();
+        net.find(30, 40, 20, 5, 0);
+        net.walk(0, 30, 40, 99);
+        Checks.equal(1, net.walk(0, 30, 40, 99));
+        Checks.equal(0, net.fall(0));
+        Checks.equal(0, net.walk(0, 30, 40, 99));
+        Checks.equal(-1, net.fall(0));
     }
 
     private static void fallOfNone() {

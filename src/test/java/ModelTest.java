@@ -83,7 +83,7 @@ public final class ModelTest {
 
     // ---- comparing
 
-    private static String tell(Answer answer) {
+    private static String toldByModel(Answer answer) {
         try {
             return String.valueOf(answer.give());
         } catch (RuntimeException e) {
@@ -91,10 +91,18 @@ public final class ModelTest {
         }
     }
 
+    private static String toldByNet(Answer answer) {
+        try {
+            return String.valueOf(answer.give());
+        } catch (RuntimeException e) {
+            return Checks.isThrownByFireNet(e) ? e.getClass().getSimpleName() : "of the machine: " + e;
+        }
+    }
+
     private void same(Answer due, Answer got) {
         calls++;
-        String dueTold = tell(due);
-        String gotTold = tell(got);
+        String dueTold = toldByModel(due);
+        String gotTold = toldByNet(got);
         if (!dueTold.equals(gotTold)) {
             throw new AssertionError(call + " answered " + gotTold + ", due is " + dueTold);
         }

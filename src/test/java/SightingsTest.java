@@ -27,6 +27,7 @@ public final class SightingsTest {
         checks.test("promise 11: speeds in a stream", SightingsTest::streamSpeeds);
         checks.test("promise 11: flights in a stream", SightingsTest::streamFlights);
         checks.test("promise 11: no stream without a flight", SightingsTest::streamStanding);
+        checks.test("promise 11: the smallest flight", SightingsTest::streamSmallFlight);
         checks.test("promise 11: no such fireball in a stream", SightingsTest::streamRanges);
         checks.test("promise 12: the flux, corrected for clouds", SightingsTest::fluxCounts);
         checks.test("promise 12: nothing seen, no clear night", SightingsTest::fluxOfNothing);
@@ -415,6 +416,14 @@ public final class SightingsTest {
         Checks.no(net.stream(still, moves));
         Checks.no(net.stream(moves, still));
         Checks.yes(net.stream(moves, moves));
+    }
+
+    private static void streamSmallFlight() {
+        FireNet net = Nets.threeCameras();
+        sight(net, 0, 1000, 1, 100, 1, 5, 5, 24);
+        sight(net, 1, 1000, 1, 100, -29, 1, -29, 1);
+        toldIs(net, 0, 2, 41, 205, 42, 205, 10, 100, 9090);
+        Checks.yes(net.stream(0, 0));
     }
 
     private static void streamRanges() {
