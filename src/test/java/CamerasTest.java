@@ -5,49 +5,18 @@ public final class CamerasTest {
 
     public static void main(String[] args) {
         Checks checks = new Checks();
-        checks.test("promise 1: the constants", CamerasTest::constants);
-        checks.test("promise 1: a new object is empty", CamerasTest::newObject);
         checks.test("promise 1: objects know nothing of each other", CamerasTest::objectsApart);
         checks.test("promise 2: cameras are numbered from 0, up to 10", CamerasTest::camerasNumbered);
-        checks.test("promise 2: ranges of a camera", CamerasTest::cameraRanges);
         checks.test("promise 3: a clock returns what was told before", CamerasTest::clockBefore);
-        checks.test("promise 3: ranges and order of a clock", CamerasTest::clockRanges);
         checks.test("promise 4: cloudy nights are counted by camera", CamerasTest::cloudsCounted);
-        checks.test("promise 4: ranges and order of clouds", CamerasTest::cloudRanges);
         checks.test("promise 4: clouds are not told twice", CamerasTest::cloudTwice);
         checks.test("promise 4: no clouds where a sighting is", CamerasTest::cloudAndSighting);
-        checks.test("promise 4: at most 50 clouds of all cameras", CamerasTest::cloudLimit);
-        checks.test("promise 5: ranges and order of begin", CamerasTest::beginRanges);
         checks.test("promise 5: no sighting begins under clouds", CamerasTest::beginUnderClouds);
         checks.test("promise 5: a later begin takes the place of one ahead", CamerasTest::beginAgain);
         checks.test("promise 5: a begin that throws leaves the one ahead", CamerasTest::beginRefused);
-        checks.test("promise 6: ranges of end", CamerasTest::endRanges);
         checks.test("promise 6: end needs a begin of its own", CamerasTest::endWithoutBegin);
         checks.test("promise 6: clouds told since the begin", CamerasTest::endUnderClouds);
-        checks.test("promise 6: at most 60 sightings", CamerasTest::endLimit);
         checks.finish();
-    }
-
-    private static void constants() {
-        Checks.equal(-1, FireNet.NONE);
-        Checks.equal(0, FireNet.KEPT);
-        Checks.equal(1, FireNet.LENT);
-        Checks.equal(2, FireNet.STOLEN);
-    }
-
-    private static void newObject() {
-        FireNet net = new FireNet();
-        Checks.refused(Checks.NO_SUCH, () -> net.clock(0, 0));
-        Checks.refused(Checks.NO_SUCH, () -> net.fireball(0));
-        Checks.refused(Checks.NO_SUCH, () -> net.fireballAnew(0));
-        Checks.refused(Checks.NO_SUCH, () -> net.told(0, 0));
-        Checks.refused(Checks.NO_SUCH, () -> net.stone(0, 0));
-        Checks.refused(Checks.NOT_NOW, () -> net.end(1, 1, 1, 1));
-        Checks.equal(0, net.fireballs(0));
-        Checks.equal(0, net.flux(0, 3649, 0));
-        Checks.equal(0, net.law(0, 0));
-        Checks.equal(0, net.camera(0, 0, 0));
-        Checks.equal(0, net.find(0, 0, 0, 1, 0));
     }
 
     private static void objectsApart() {
@@ -76,22 +45,6 @@ public final class CamerasTest {
         Checks.refused(Checks.NO_SUCH, () -> net.clock(10, 0));
     }
 
-    private static void cameraRanges() {
-        FireNet net = new FireNet();
-        Checks.refused(Checks.OUT_OF_RANGE, () -> net.camera(-1, 5, 0));
-        Checks.refused(Checks.OUT_OF_RANGE, () -> net.camera(100, 5, 0));
-        Checks.refused(Checks.OUT_OF_RANGE, () -> net.camera(5, -1, 0));
-        Checks.refused(Checks.OUT_OF_RANGE, () -> net.camera(5, 100, 0));
-        Checks.refused(Checks.OUT_OF_RANGE, () -> net.camera(5, 5, -100));
-        Checks.refused(Checks.OUT_OF_RANGE, () -> net.camera(5, 5, 100));
-        Checks.refused(Checks.OUT_OF_RANGE, () -> net.camera(Integer.MIN_VALUE, 5, 0));
-        Checks.refused(Checks.OUT_OF_RANGE, () -> net.camera(5, Integer.MAX_VALUE, 0));
-        Checks.equal(0, net.camera(0, 0, -99));
-        Checks.equal(1, net.camera(99, 99, 99));
-        Checks.equal(-99, net.clock(0, 0));
-        Checks.equal(99, net.clock(1, 0));
-    }
-
     private static void clockBefore() {
         FireNet net = new FireNet();
         net.camera(1, 2, 7);
@@ -103,21 +56,6 @@ public final class CamerasTest {
         Checks.equal(-30, net.clock(0, 0));
     }
 
-    private static void clockRanges() {
-        FireNet net = new FireNet();
-        Checks.refused(Checks.NO_SUCH, () -> net.clock(0, 100));
-        net.camera(1, 2, 7);
-        Checks.refused(Checks.NO_SUCH, () -> net.clock(-1, 0));
-        Checks.refused(Checks.NO_SUCH, () -> net.clock(1, 0));
-        Checks.refused(Checks.NO_SUCH, () -> net.clock(1, -100));
-        Checks.refused(Checks.NO_SUCH, () -> net.clock(Integer.MAX_VALUE, 0));
-        Checks.refused(Checks.OUT_OF_RANGE, () -> net.clock(0, 100));
-        Checks.refused(Checks.OUT_OF_RANGE, () -> net.clock(0, -100));
-        Checks.equal(7, net.clock(0, 99));
-        Checks.equal(99, net.clock(0, -99));
-        Checks.equal(-99, net.clock(0, 0));
-    }
-
     private static void cloudsCounted() {
         FireNet net = Nets.threeCameras();
         Checks.equal(1, net.cloud(0, 0));
@@ -126,17 +64,6 @@ public final class CamerasTest {
         Checks.equal(3, net.cloud(0, 7));
         Checks.equal(2, net.cloud(1, 8));
         Checks.equal(1, net.cloud(2, 7));
-    }
-
-    private static void cloudRanges() {
-        FireNet net = Nets.threeCameras();
-        Checks.refused(Checks.NO_SUCH, () -> net.cloud(-1, 5));
-        Checks.refused(Checks.NO_SUCH, () -> net.cloud(3, 5));
-        Checks.refused(Checks.NO_SUCH, () -> net.cloud(3, -1));
-        Checks.refused(Checks.OUT_OF_RANGE, () -> net.cloud(2, -1));
-        Checks.refused(Checks.OUT_OF_RANGE, () -> net.cloud(2, 3650));
-        Checks.equal(1, net.cloud(2, 0));
-        Checks.equal(2, net.cloud(2, 3649));
     }
 
     private static void cloudTwice() {
@@ -157,37 +84,6 @@ public final class CamerasTest {
         Checks.equal(1, net.cloud(1, 5));
         net.begin(2, 9, 100, 5, 50);
         Checks.equal(1, net.cloud(2, 9));
-    }
-
-    private static void cloudLimit() {
-        FireNet net = Nets.threeCameras();
-        for (int i = 0; i < 50; i++) {
-            Checks.equal(i / 2 + 1, net.cloud(i % 2, 100 + i));
-        }
-        Checks.refused(Checks.NOT_NOW, () -> net.cloud(2, 7));
-        Checks.refused(Checks.OUT_OF_RANGE, () -> net.cloud(2, 3650));
-        net.begin(2, 7, 0, 1, 1);
-        Checks.equal(0, net.end(1, 0, 1, 0));
-    }
-
-    private static void beginRanges() {
-        FireNet net = Nets.threeCameras();
-        Checks.refused(Checks.NO_SUCH, () -> net.begin(-1, 5, 5, 5, 50));
-        Checks.refused(Checks.NO_SUCH, () -> net.begin(3, 5, 5, 5, 50));
-        Checks.refused(Checks.NO_SUCH, () -> net.begin(3, -1, 5, 5, 50));
-        Checks.refused(Checks.OUT_OF_RANGE, () -> net.begin(0, -1, 5, 5, 50));
-        Checks.refused(Checks.OUT_OF_RANGE, () -> net.begin(0, 3650, 5, 5, 50));
-        Checks.refused(Checks.OUT_OF_RANGE, () -> net.begin(0, 5, -1, 5, 50));
-        Checks.refused(Checks.OUT_OF_RANGE, () -> net.begin(0, 5, 86400, 5, 50));
-        Checks.refused(Checks.OUT_OF_RANGE, () -> net.begin(0, 5, 5, 0, 50));
-        Checks.refused(Checks.OUT_OF_RANGE, () -> net.begin(0, 5, 5, 61, 50));
-        Checks.refused(Checks.OUT_OF_RANGE, () -> net.begin(0, 5, 5, 5, 0));
-        Checks.refused(Checks.OUT_OF_RANGE, () -> net.begin(0, 5, 5, 5, 1001));
-        Checks.refused(Checks.NOT_NOW, () -> net.end(1, 1, 1, 1));
-        net.begin(0, 0, 0, 1, 1);
-        Checks.equal(0, net.end(1, 1, 1, 1));
-        net.begin(2, 3649, 86399, 60, 1000);
-        Checks.equal(1, net.end(1, 1, 1, 1));
     }
 
     private static void beginUnderClouds() {
@@ -223,29 +119,6 @@ public final class CamerasTest {
         Checks.equal(1, net.cloud(0, 6));
     }
 
-    private static void endRanges() {
-        FireNet net = Nets.threeCameras();
-        Checks.refused(Checks.OUT_OF_RANGE, () -> net.end(0, 0, 1, 1));
-        net.begin(1, 5, 5, 5, 50);
-        Checks.refused(Checks.OUT_OF_RANGE, () -> net.end(0, 0, 1, 1));
-        Checks.refused(Checks.OUT_OF_RANGE, () -> net.end(1, 1, 0, 0));
-        Checks.refused(Checks.OUT_OF_RANGE, () -> net.end(-101, 1, 1, 1));
-        Checks.refused(Checks.OUT_OF_RANGE, () -> net.end(101, 1, 1, 1));
-        Checks.refused(Checks.OUT_OF_RANGE, () -> net.end(1, -101, 1, 1));
-        Checks.refused(Checks.OUT_OF_RANGE, () -> net.end(1, 101, 1, 1));
-        Checks.refused(Checks.OUT_OF_RANGE, () -> net.end(1, 1, -101, 1));
-        Checks.refused(Checks.OUT_OF_RANGE, () -> net.end(1, 1, 101, 1));
-        Checks.refused(Checks.OUT_OF_RANGE, () -> net.end(1, 1, 1, -101));
-        Checks.refused(Checks.OUT_OF_RANGE, () -> net.end(1, 1, 1, 101));
-        Checks.equal(0, net.end(-100, 100, 100, -100));
-        net.begin(1, 5, 5, 5, 50);
-        Checks.equal(1, net.end(100, -100, -100, 100));
-        net.begin(1, 5, 5, 5, 50);
-        Checks.equal(2, net.end(0, 1, 1, 0));
-        net.begin(1, 5, 5, 5, 50);
-        Checks.equal(3, net.end(-1, 0, 0, -1));
-    }
-
     private static void endWithoutBegin() {
         FireNet net = Nets.threeCameras();
         Checks.refused(Checks.NOT_NOW, () -> net.end(1, 1, 1, 1));
@@ -268,20 +141,5 @@ public final class CamerasTest {
         net.begin(1, 6, 5, 5, 50);
         net.cloud(0, 6);
         Checks.equal(0, net.end(1, 1, 1, 1));
-    }
-
-    private static void endLimit() {
-        FireNet net = Nets.threeCameras();
-        for (int i = 0; i < 60; i++) {
-            net.begin(i % 3, 5, 5, 5, 50);
-            Checks.equal(i, net.end(-1, -1, -1, -1));
-        }
-        net.begin(0, 6, 5, 5, 50);
-        Checks.refused(Checks.NOT_NOW, () -> net.end(1, 1, 1, 1));
-        Checks.refused(Checks.OUT_OF_RANGE, () -> net.end(0, 0, 1, 1));
-        Checks.equal(-1, net.fireball(59));
-        Checks.equal(-1, net.fireballAnew(59));
-        Checks.refused(Checks.NO_SUCH, () -> net.fireball(60));
-        Checks.equal(1, net.cloud(0, 6));
     }
 }

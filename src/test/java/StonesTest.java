@@ -15,44 +15,30 @@ public final class StonesTest {
     public static void main(String[] args) {
         Checks checks = new Checks();
         checks.test("promise 16: stones are numbered from 0, up to 40", StonesTest::stonesNumbered);
-        checks.test("promise 16: ranges of a find", StonesTest::findRanges);
         checks.test("promise 16: who owns a find, by the law of its land", StonesTest::findOwners);
         checks.test("promise 18: minerals are told, and told anew", StonesTest::mineralsTold);
-        checks.test("promise 18: ranges of minerals", StonesTest::mineralRanges);
         checks.test("promise 19: the latest rule not behind the year", StonesTest::latestRule);
         checks.test("promise 19: of several for one year the last one", StonesTest::lastRule);
-        checks.test("promise 19: ranges of a rule", StonesTest::ruleRanges);
         checks.test("promise 20: classes by bounds", StonesTest::classBounds);
         checks.test("promise 20: no class without iron or rule", StonesTest::noClass);
-        checks.test("promise 20: ranges of a class", StonesTest::classRanges);
         checks.test("promise 21: pairs by class", StonesTest::pairsByClass);
         checks.test("promise 21: pairs by distance", StonesTest::pairsByDistance);
         checks.test("promise 21: pairs by falls", StonesTest::pairsByFalls);
-        checks.test("promise 21: ranges of a pair", StonesTest::pairRanges);
         checks.test("promise 22: a cut moves grams", StonesTest::cutMovesGrams);
         checks.test("promise 22: a piece has what the other one had", StonesTest::pieceInherits);
         checks.test("promise 22: at least 1 gram is kept", StonesTest::cutKeepsGram);
         checks.test("promise 22: stolen stones are not cut, lent ones are", StonesTest::cutWhere);
-        checks.test("promise 22: ranges of a cut", StonesTest::cutRanges);
-        checks.test("promise 22: at most 40 stones", StonesTest::cutLimit);
         checks.test("promise 23: lent and taken back", StonesTest::lentAndBack);
-        checks.test("promise 23: ranges of lend", StonesTest::lendRanges);
         checks.test("promise 24: stolen", StonesTest::stolen);
         checks.test("promise 25: laws of lands", StonesTest::lawsOfLands);
-        checks.test("promise 25: ranges of a law", StonesTest::lawRanges);
         checks.test("promise 26: given to another person", StonesTest::given);
         checks.test("promise 26: given by the law of now", StonesTest::givenByLaw);
         checks.test("promise 26: given only if kept", StonesTest::givenIfKept);
-        checks.test("promise 26: ranges of give", StonesTest::giveRanges);
         checks.test("promise 27: names by place and number", StonesTest::namesNumbered);
         checks.test("promise 27: pieces have names of others, or own ones", StonesTest::namesOfPieces);
-        checks.test("promise 27: ranges of name", StonesTest::nameRanges);
         checks.test("promise 28: doubtful names", StonesTest::doubtfulNames);
-        checks.test("promise 28: ranges of doubt", StonesTest::doubtRanges);
         checks.test("promise 29: what is told of a new stone", StonesTest::newStone);
-        checks.test("promise 29: ranges of stone", StonesTest::stoneRanges);
         checks.test("promise 30: the whole stays as it was found", StonesTest::wholeStays);
-        checks.test("promise 30: ranges of whole", StonesTest::wholeRanges);
         checks.finish();
     }
 
@@ -74,25 +60,6 @@ public final class StonesTest {
         Checks.refused(Checks.OUT_OF_RANGE, () -> net.find(1, 1, 1, 1, 6));
         Checks.equal(40, net.stone(39, GRAMS));
         Checks.refused(Checks.NO_SUCH, () -> net.stone(40, GRAMS));
-    }
-
-    private static void findRanges() {
-        FireNet net = new FireNet();
-        Checks.refused(Checks.OUT_OF_RANGE, () -> net.find(-1, 1, 1, 1, 1));
-        Checks.refused(Checks.OUT_OF_RANGE, () -> net.find(100, 1, 1, 1, 1));
-        Checks.refused(Checks.OUT_OF_RANGE, () -> net.find(1, -1, 1, 1, 1));
-        Checks.refused(Checks.OUT_OF_RANGE, () -> net.find(1, 100, 1, 1, 1));
-        Checks.refused(Checks.OUT_OF_RANGE, () -> net.find(1, 1, -1, 1, 1));
-        Checks.refused(Checks.OUT_OF_RANGE, () -> net.find(1, 1, 3650, 1, 1));
-        Checks.refused(Checks.OUT_OF_RANGE, () -> net.find(1, 1, 1, 0, 1));
-        Checks.refused(Checks.OUT_OF_RANGE, () -> net.find(1, 1, 1, 1000001, 1));
-        Checks.refused(Checks.OUT_OF_RANGE, () -> net.find(1, 1, 1, 1, -1));
-        Checks.refused(Checks.OUT_OF_RANGE, () -> net.find(1, 1, 1, 1, 6));
-        Checks.equal(0, net.find(0, 0, 0, 1, 0));
-        Checks.equal(1, net.find(99, 99, 3649, 1000000, 5));
-        Checks.equal(1, net.stone(0, GRAMS));
-        Checks.equal(1000000, net.stone(1, GRAMS));
-        Checks.equal(5, net.stone(1, OWNER));
     }
 
     private static void findOwners() {
@@ -129,22 +96,6 @@ public final class StonesTest {
         Checks.equal(109, net.classOf(0, 0));
     }
 
-    private static void mineralRanges() {
-        FireNet net = withStones(1);
-        net.rule(0, 500, 200);
-        net.minerals(0, 300, 4, 5);
-        Checks.refused(Checks.NO_SUCH, () -> net.minerals(1, 1, 1, 1));
-        Checks.refused(Checks.NO_SUCH, () -> net.minerals(-1, 1, 1, 1));
-        Checks.refused(Checks.NO_SUCH, () -> net.minerals(1, -1, 1, 1));
-        Checks.refused(Checks.OUT_OF_RANGE, () -> net.minerals(0, -1, 1, 1));
-        Checks.refused(Checks.OUT_OF_RANGE, () -> net.minerals(0, 1001, 1, 1));
-        Checks.refused(Checks.OUT_OF_RANGE, () -> net.minerals(0, 1, -1, 1));
-        Checks.refused(Checks.OUT_OF_RANGE, () -> net.minerals(0, 1, 10, 1));
-        Checks.refused(Checks.OUT_OF_RANGE, () -> net.minerals(0, 1, 1, -1));
-        Checks.refused(Checks.OUT_OF_RANGE, () -> net.minerals(0, 1, 1, 10));
-        Checks.equal(245, net.classOf(0, 0));
-    }
-
     private static void latestRule() {
         FireNet net = withStones(1);
         net.minerals(0, 250, 3, 4);
@@ -175,24 +126,6 @@ public final class StonesTest {
         net.rule(3, 300, 250);
         Checks.equal(200, net.classOf(0, 9));
         Checks.equal(300, net.classOf(0, 2));
-    }
-
-    private static void ruleRanges() {
-        FireNet net = withStones(1);
-        net.minerals(0, 1000, 0, 0);
-        Checks.refused(Checks.OUT_OF_RANGE, () -> net.rule(-1, 500, 400));
-        Checks.refused(Checks.OUT_OF_RANGE, () -> net.rule(10, 500, 400));
-        Checks.refused(Checks.OUT_OF_RANGE, () -> net.rule(0, -1, -1));
-        Checks.refused(Checks.OUT_OF_RANGE, () -> net.rule(0, 1001, 400));
-        Checks.refused(Checks.OUT_OF_RANGE, () -> net.rule(0, 500, -1));
-        Checks.refused(Checks.OUT_OF_RANGE, () -> net.rule(0, 500, 501));
-        Checks.equal(0, net.classOf(0, 9));
-        net.rule(9, 1000, 1000);
-        Checks.equal(100, net.classOf(0, 9));
-        net.rule(0, 0, 0);
-        Checks.equal(100, net.classOf(0, 0));
-        net.minerals(0, 999, 0, 0);
-        Checks.equal(300, net.classOf(0, 9));
     }
 
     private static void classBounds() {
@@ -230,15 +163,6 @@ public final class StonesTest {
         Checks.equal(0, net.classOf(1, 9));
         net.minerals(1, 0, 0, 0);
         Checks.equal(300, net.classOf(1, 9));
-    }
-
-    private static void classRanges() {
-        FireNet net = withStones(1);
-        Checks.refused(Checks.NO_SUCH, () -> net.classOf(1, 0));
-        Checks.refused(Checks.NO_SUCH, () -> net.classOf(-1, 0));
-        Checks.refused(Checks.NO_SUCH, () -> net.classOf(1, 10));
-        Checks.refused(Checks.OUT_OF_RANGE, () -> net.classOf(0, -1));
-        Checks.refused(Checks.OUT_OF_RANGE, () -> net.classOf(0, 10));
     }
 
     private static void pairsByClass() {
@@ -308,22 +232,6 @@ public final class StonesTest {
         Checks.yes(net.pair(4, 3, 0));
         net.clock(0, 50);
         Checks.yes(net.pair(0, 2, 0));
-    }
-
-    private static void pairRanges() {
-        FireNet net = withStones(2);
-        net.rule(0, 5, 5);
-        net.minerals(0, 9, 1, 1);
-        net.minerals(1, 9, 1, 1);
-        Checks.refused(Checks.NO_SUCH, () -> net.pair(0, 2, 0));
-        Checks.refused(Checks.NO_SUCH, () -> net.pair(2, 0, 0));
-        Checks.refused(Checks.NO_SUCH, () -> net.pair(2, 2, 0));
-        Checks.refused(Checks.NO_SUCH, () -> net.pair(-1, 0, 0));
-        Checks.refused(Checks.NO_SUCH, () -> net.pair(0, -1, 10));
-        Checks.refused(Checks.OUT_OF_RANGE, () -> net.pair(0, 0, 0));
-        Checks.refused(Checks.OUT_OF_RANGE, () -> net.pair(0, 1, -1));
-        Checks.refused(Checks.OUT_OF_RANGE, () -> net.pair(0, 1, 10));
-        Checks.yes(net.pair(0, 1, 9));
     }
 
     private static void cutMovesGrams() {
@@ -402,35 +310,6 @@ public final class StonesTest {
         Checks.equal(4, net.cut(0, 10, 0));
     }
 
-    private static void cutRanges() {
-        FireNet net = new FireNet();
-        Checks.refused(Checks.NO_SUCH, () -> net.cut(0, 0, 0));
-        net.find(1, 1, 1, 1000000, 1);
-        Checks.refused(Checks.NO_SUCH, () -> net.cut(1, 1, 0));
-        Checks.refused(Checks.NO_SUCH, () -> net.cut(-1, 1, 0));
-        Checks.refused(Checks.OUT_OF_RANGE, () -> net.cut(0, 0, 0));
-        Checks.refused(Checks.OUT_OF_RANGE, () -> net.cut(0, 1000001, 0));
-        Checks.refused(Checks.OUT_OF_RANGE, () -> net.cut(0, 1, -1));
-        Checks.refused(Checks.OUT_OF_RANGE, () -> net.cut(0, 1, 1001));
-        Checks.refused(Checks.NOT_NOW, () -> net.cut(0, 1000000, 0));
-        Checks.equal(1, net.cut(0, 1, 1000));
-        Checks.equal(998999, net.stone(0, GRAMS));
-        net.steal(0);
-        Checks.refused(Checks.OUT_OF_RANGE, () -> net.cut(0, 1, 1001));
-    }
-
-    private static void cutLimit() {
-        FireNet net = withStones(20);
-        for (int i = 0; i < 20; i++) {
-            Checks.equal(20 + i, net.cut(i, 1, 1));
-        }
-        Checks.refused(Checks.NOT_NOW, () -> net.cut(0, 1, 1));
-        Checks.refused(Checks.OUT_OF_RANGE, () -> net.cut(0, 0, 1));
-        Checks.equal(98, net.stone(0, GRAMS));
-        Checks.equal(1, net.stone(0, LOST));
-        Checks.refused(Checks.NOT_NOW, () -> net.find(1, 1, 1, 1, 1));
-    }
-
     private static void whereIs(FireNet net, int where, int laboratory) {
         Checks.equal(where, net.stone(0, WHERE));
         Checks.equal(laboratory, net.stone(0, LABORATORY));
@@ -458,18 +337,6 @@ public final class StonesTest {
         Checks.equal(FireNet.KEPT, net.stone(1, WHERE));
     }
 
-    private static void lendRanges() {
-        FireNet net = withStones(1);
-        Checks.refused(Checks.NO_SUCH, () -> net.lend(1, 0));
-        Checks.refused(Checks.NO_SUCH, () -> net.lend(-1, 0));
-        Checks.refused(Checks.NO_SUCH, () -> net.lend(1, 4));
-        Checks.refused(Checks.OUT_OF_RANGE, () -> net.lend(0, 4));
-        Checks.refused(Checks.OUT_OF_RANGE, () -> net.lend(0, -2));
-        whereIs(net, FireNet.KEPT, -1);
-        net.steal(0);
-        Checks.refused(Checks.OUT_OF_RANGE, () -> net.lend(0, 4));
-    }
-
     private static void stolen() {
         FireNet net = withStones(2);
         net.steal(0);
@@ -495,16 +362,6 @@ public final class StonesTest {
         Checks.equal(1, net.law(0, 0));
         Checks.equal(0, net.law(0, 0));
         Checks.equal(1, net.law(3, 0));
-    }
-
-    private static void lawRanges() {
-        FireNet net = new FireNet();
-        net.law(0, 2);
-        Checks.refused(Checks.OUT_OF_RANGE, () -> net.law(-1, 0));
-        Checks.refused(Checks.OUT_OF_RANGE, () -> net.law(4, 0));
-        Checks.refused(Checks.OUT_OF_RANGE, () -> net.law(0, -1));
-        Checks.refused(Checks.OUT_OF_RANGE, () -> net.law(0, 3));
-        Checks.equal(2, net.law(0, 0));
     }
 
     private static void given() {
@@ -556,17 +413,6 @@ public final class StonesTest {
         Checks.equal(0, net.give(0, 1));
     }
 
-    private static void giveRanges() {
-        FireNet net = withStones(1);
-        Checks.refused(Checks.NO_SUCH, () -> net.give(1, 1));
-        Checks.refused(Checks.NO_SUCH, () -> net.give(-1, 1));
-        Checks.refused(Checks.NO_SUCH, () -> net.give(1, 6));
-        Checks.refused(Checks.OUT_OF_RANGE, () -> net.give(0, -1));
-        Checks.refused(Checks.OUT_OF_RANGE, () -> net.give(0, 6));
-        net.steal(0);
-        Checks.refused(Checks.OUT_OF_RANGE, () -> net.give(0, 10));
-    }
-
     private static void namesNumbered() {
         FireNet net = withStones(5);
         Checks.equal(-1, net.stone(0, NAME));
@@ -604,18 +450,6 @@ public final class StonesTest {
         Checks.equal(401, net.stone(0, NAME));
     }
 
-    private static void nameRanges() {
-        FireNet net = withStones(1);
-        Checks.refused(Checks.NO_SUCH, () -> net.name(1, 0));
-        Checks.refused(Checks.NO_SUCH, () -> net.name(-1, 0));
-        Checks.refused(Checks.NO_SUCH, () -> net.name(1, 10));
-        Checks.refused(Checks.OUT_OF_RANGE, () -> net.name(0, 10));
-        Checks.refused(Checks.OUT_OF_RANGE, () -> net.name(0, -1));
-        Checks.equal(-1, net.stone(0, NAME));
-        Checks.equal(1, net.name(0, 0));
-        Checks.refused(Checks.OUT_OF_RANGE, () -> net.name(0, 10));
-    }
-
     private static void doubtfulNames() {
         FireNet net = withStones(2);
         net.cut(0, 50, 0);
@@ -636,34 +470,12 @@ public final class StonesTest {
         Checks.equal(1, net.stone(2, DOUBTFUL));
     }
 
-    private static void doubtRanges() {
-        FireNet net = withStones(1);
-        Checks.refused(Checks.NO_SUCH, () -> net.doubt(1, true));
-        Checks.refused(Checks.NO_SUCH, () -> net.doubt(-1, true));
-        Checks.refused(Checks.NOT_NOW, () -> net.doubt(0, true));
-        net.name(0, 4);
-        Checks.equal(0, net.stone(0, DOUBTFUL));
-        net.cut(0, 50, 0);
-        Checks.refused(Checks.NOT_NOW, () -> net.doubt(1, true));
-        Checks.refused(Checks.NOT_NOW, () -> net.doubt(1, false));
-        Checks.equal(0, net.stone(0, DOUBTFUL));
-    }
-
     private static void newStone() {
         FireNet net = withStones(1);
         int[] due = {100, 0, 0, -1, -1, -1, 0, 0};
         for (int what = 0; what < due.length; what++) {
             Checks.equal(due[what], net.stone(0, what));
         }
-    }
-
-    private static void stoneRanges() {
-        FireNet net = withStones(1);
-        Checks.refused(Checks.NO_SUCH, () -> net.stone(1, 0));
-        Checks.refused(Checks.NO_SUCH, () -> net.stone(-1, 0));
-        Checks.refused(Checks.NO_SUCH, () -> net.stone(1, 8));
-        Checks.refused(Checks.OUT_OF_RANGE, () -> net.stone(0, 8));
-        Checks.refused(Checks.OUT_OF_RANGE, () -> net.stone(0, -1));
     }
 
     private static void wholeStays() {
@@ -683,11 +495,5 @@ public final class StonesTest {
         Checks.equal(20, net.stone(0, GRAMS));
         Checks.equal(10, net.stone(0, LOST));
         Checks.equal(9, net.stone(3, GRAMS));
-    }
-
-    private static void wholeRanges() {
-        FireNet net = withStones(1);
-        Checks.refused(Checks.NO_SUCH, () -> net.whole(1));
-        Checks.refused(Checks.NO_SUCH, () -> net.whole(-1));
     }
 }
